@@ -1674,7 +1674,6 @@ public final class EatenToll {
         private final Scene trial;
         private final Plate plate;
         private final Plate otherPlate;
-        private final int[] law = new int[MOST_DISHES];
         private final int[] bestLaw = new int[MOST_DISHES];
         private int bestGain;
         private int passedMen;
@@ -1751,54 +1750,71 @@ public final class EatenToll {
             }
         }
 
-        /** A law of no bites gains nothing and is the least: only one that gains more takes its place. */
+        /**
+         * Laws are tried in rising order, so that only one that gains more takes the place of the
+         * best one; the first, of no bites, gains nothing.
+         */
         void findBestLaw(Scene now, int set) {
             bestGain = 0;
             Arrays.fill(bestLaw, 0);
-            int men = 0;
+            int eaters = eatersOf(now, set);
+            int laws = 1;
+            for (int dish = 0; dish < told.dishes(); dish++) {
+                laws *= MOST_BITES + 1;
+            }
+            for (int number = 1; number < laws; number++) {
+                layByNumber(number);
+                int most = Math.min(Integer.bitCount(eaters), servedFrom(now));
+                if (most * plate.gain > bestGain) {
+                    int sum = Math.min(most, whoSwallow(now, eaters)) * plate.gain;
+                    if (sum > bestGain) {
+                        bestGain = sum;
+                        System.arraycopy(plate.bites, 0, bestLaw, 0, MOST_DISHES);
+                    }
+                }
+            }
+        }
+
+        private int eatersOf(Scene now, int set) {
+            int eaters = 0;
             for (int man = 0; man < told.men(); man++) {
                 boolean eats = now.sickHours(man) == 0 && !keeper.isFasting(now, man);
                 if (eats && (set >> man & 1) != 0) {
-                    men |= 1 << man;
+                    eaters |= 1 << man;
                 }
             }
-            tryBites(now, 0, men, MOST_MEN, 0, 0);
+            return eaters;
         }
 
-        /**
-         * All who pass swallow the same, so it is enough to know who can, and for how many the
-         * stores have enough.
-         */
-        private void tryBites(Scene now, int dish, int men, int served, int bulk, int gain) {
-            if (dish >= told.dishes() || dish >= MOST_DISHES) {
-                int sum = Math.min(served, Integer.bitCount(men)) * gain;
-                if (sum > bestGain) {
-                    bestGain = sum;
-                    System.arraycopy(law, 0, bestLaw, 0, MOST_DISHES);
-                }
-                return;
-            }
-            for (int bites = 0; bites <= MOST_BITES; bites++) {
-                int withBulk = bulk + bites * told.bulk[dish];
-                int left = bites == 0 ? men : eaters(now, men, dish, withBulk);
-                int enough = bites == 0 ? served : Math.min(served, now.store(dish) / bites);
-                if (left == 0 || enough == 0) {
-                    return;
-                }
-                law[dish] = bites;
-                tryBites(now, dish + 1, left, enough, withBulk, gain + bites * told.gain[dish]);
+        private void layByNumber(int number) {
+            int rest = number;
+            plate.clear();
+            for (int dish = told.dishes() - 1; dish >= 0; dish--) {
+                plate.add(dish, rest % (MOST_BITES + 1), told);
+                rest /= MOST_BITES + 1;
             }
         }
 
-        private int eaters(Scene now, int men, int dish, int bulk) {
-            int left = 0;
+        /** All who pass swallow the same: for how many of them the stores have enough. */
+        private int servedFrom(Scene now) {
+            int served = MOST_MEN;
+            for (int dish = 0; dish < told.dishes(); dish++) {
+                if (plate.bites[dish] > 0) {
+                    served = Math.min(served, now.store(dish) / plate.bites[dish]);
+                }
+            }
+            return served;
+        }
+
+        private int whoSwallow(Scene now, int eaters) {
+            int many = 0;
             for (int man = 0; man < told.men(); man++) {
-                boolean hates = (told.hates[man] >> dish & 1) != 0;
-                if (!hates && told.belly[man] - now.full(man) >= bulk) {
-                    left |= 1 << man;
+                boolean stands = (plate.dishBits & told.hates[man]) == 0;
+                if ((eaters >> man & 1) != 0 && stands && plate.bulk <= told.belly[man] - now.full(man)) {
+                    many++;
                 }
             }
-            return men & left;
+            return many;
         }
     }
 

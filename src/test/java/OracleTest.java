@@ -12,6 +12,8 @@ public final class OracleTest {
     private long seed;
     private int dishes;
     private int men;
+    private boolean hungry;
+    private boolean roomy;
 
     private OracleTest(long seed) {
         this.seed = seed * 1000003 + 17;
@@ -61,11 +63,11 @@ public final class OracleTest {
         for (int ifs = 0; ifs < 4 && chance(35); ifs++) {
             b.append("if ").append(expr(3)).append("<").append(expr(3)).append(" then ").append(expr(3)).append(" else ");
         }
-        return b.append(chance(45) ? String.valueOf(below(4)) : expr(6)).append(";").toString();
+        return b.append(chance(45) || hungry ? String.valueOf(below(4)) : expr(6)).append(";").toString();
     }
 
-    private String man(int number, boolean roomy) {
-        int belly = roomy ? near(10, 60) : near(0, 40);
+    private String man(int number) {
+        int belly = hungry ? near(0, 20) : roomy ? near(10, 60) : near(0, 40);
         StringBuilder b = new StringBuilder("man " + NAMES[4 + number] + " " + belly + " " + below(belly / 2 + 1) + " "
             + below(10) + " " + below(1000));
         while (chance(35)) {
@@ -79,28 +81,50 @@ public final class OracleTest {
     }
 
     private String text() {
-        dishes = below(5);
-        men = below(9);
-        boolean roomy = chance(50);
+        String text = anyText();
+        for (int tries = 0; tries < 50 && (text.length() > 1980 || tokensOf(text) > 400); tries++) {
+            text = anyText();
+        }
+        return text;
+    }
+
+    private static int tokensOf(String text) {
+        int tokens = 0;
+        String around = " " + text;
+        for (int i = 1; i < around.length(); i++) {
+            char c = around.charAt(i);
+            char before = around.charAt(i - 1);
+            boolean goesOn = Character.isLetter(c) && Character.isLetter(before) || Character.isDigit(c) && Character.isDigit(before);
+            tokens += c > ' ' && !goesOn ? 1 : 0;
+        }
+        return tokens;
+    }
+
+    private String anyText() {
+        dishes = chance(90) ? near(1, 4) : 0;
+        men = chance(90) ? near(2, 8) : below(2);
+        hungry = chance(30);
+        roomy = chance(50);
         boolean plenty = chance(60);
+        boolean many = chance(30);
         StringBuilder b = new StringBuilder();
         for (int i = 0; i < dishes; i++) {
             b.append("dish ").append(NAMES[i]).append(" ").append(near(1, chance(50) ? 3 : 9)).append(" ").append(below(12))
                 .append(" ").append(plenty ? near(50, 999) : below(30)).append(";\n");
         }
         for (int i = 0; i < men; i++) {
-            b.append(man(i, roomy));
+            b.append(man(i));
         }
-        for (int i = below(9); i > 0 && dishes > 0; i--) {
+        for (int i = hungry ? 8 : near(2, 8); i > 0 && dishes > 0; i--) {
             b.append(law());
         }
-        for (int i = below(7); i > 0; i--) {
-            b.append("belly ").append(NAMES[11 + i]).append(" ").append(below(20)).append(" ").append(below(8)).append(";");
+        for (int i = hungry ? near(3, 6) : below(5); i > 0; i--) {
+            b.append("belly ").append(NAMES[11 + i]).append(" ").append(hungry ? below(16) : below(30)).append(" ").append(below(8)).append(";");
         }
-        for (int i = below(21); i > 0 && men > 0; i--) {
+        for (int i = many ? 20 : below(9); i > 0 && men > 0; i--) {
             b.append("goes ").append(NAMES[4 + below(men)]).append(" ").append(below(24)).append(";");
         }
-        for (int i = below(21); i > 0 && men > 1; i--) {
+        for (int i = many ? 20 : below(9); i > 0 && men > 1; i--) {
             int debtor = below(men);
             int owed = (debtor + near(1, men - 1)) % men;
             b.append("owe ").append(NAMES[4 + debtor]).append(" ").append(NAMES[4 + owed]).append(" ")
@@ -165,9 +189,6 @@ public final class OracleTest {
         String run = "run " + number;
         for (int texts = 0; texts < 3; texts++) {
             String text = text();
-            if (text.length() > 1980) {
-                text = text.substring(0, 1980);
-            }
             tell(x, y, text, run);
             for (int calls = 0; calls < 90; calls++) {
                 oneCall(x, y, run + " after " + text + ": ");
