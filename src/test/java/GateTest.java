@@ -8,6 +8,7 @@ public final class GateTest {
         vars();
         whyNot();
         orderOfWhy();
+        sickIsOne();
         passing();
         illness();
         twiceTold();
@@ -139,6 +140,22 @@ public final class GateTest {
         x.later(21);
         Check.due("ahead next day", 0, x.toll(1, 1, 0));
         Check.due("hour next day", 0, x.toll(1, 0, 0));
+    }
+
+    /** sick is 1 up to the last hour, and 0 then. */
+    private static void sickIsOne() {
+        EatenToll x = Check.told("dish a 1 0 99; man m 99 0 0 0 ill a 1; law 0 a = 3; law 1 a = 2 + sick * 3;");
+        Check.due("well", 2, x.toll(0, 1, 0));
+        x.pass(0, 0);
+        Check.due("sick", 5, x.toll(0, 1, 0));
+        x.later(11);
+        Check.due("sick for an hour more", 5, x.toll(0, 1, 0));
+        Check.due("who is sick swallows nothing", 5, x.tongue(0, 1));
+        Check.due("who is sick swallows nothing", -2, x.hire(0, 1, 0));
+        x.later(1);
+        Check.due("well again", 2, x.toll(0, 1, 0));
+        Check.due("who is well swallows", 0, x.tongue(0, 1));
+        Check.due("who is well swallows", 0, x.hire(0, 1, 0));
     }
 
     private static void whyNot() {

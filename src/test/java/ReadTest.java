@@ -276,5 +276,17 @@ public final class ReadTest {
         Check.put(x, "dish b 1 1 1; man only 20 7 3 55;");
         Check.due("read()", 0, x.read());
         Check.due("toll without a law", 0, x.toll(0, 0, 0));
+        Check.put(x, "dish a 1 1 9; dish b 1 1 9; man m 9 0 0 0 hates b ill a 1 fast 0 9; law 0 a = 5; law 0 b = 4; law 1 b = 3;");
+        Check.due("read()", 0, x.read());
+        Check.due("toll(0, 0, 0)", 5, x.toll(0, 0, 0));
+        Check.put(x, "dish a 1 1 9; dish b 1 1 9; man m 9 0 0 0; law 0 b = 2;");
+        Check.due("read()", 0, x.read());
+        Check.due("laws of the text ahead are gone", 0, x.toll(0, 0, 0));
+        Check.due("laws of the text ahead are gone", 2, x.toll(0, 0, 1));
+        Check.due("laws of the text ahead are gone", 0, x.toll(0, 1, 1));
+        Check.put(x, "dish a 1 1 9; dish b 1 1 9; man m 9 0 0 0; law 0 a = 1; law 0 b = 1;");
+        Check.due("read()", 0, x.read());
+        Check.due("traits of the text ahead are gone", 0, x.pass(0, 0));
+        Check.due("traits of the text ahead are gone", 0, x.man(0, 2));
     }
 }

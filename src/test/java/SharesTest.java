@@ -4,9 +4,12 @@ public final class SharesTest {
         hire();
         hireForWholeBites();
         hireAndStore();
+        manyBites();
+        withSomeAhead();
         tongue();
         together();
         togetherAhead();
+        wideRooms();
         odds();
         Check.end();
     }
@@ -63,6 +66,44 @@ public final class SharesTest {
         hired(-2, -2, x, 0, 0);
         hired(0, 0, x, 0, 1);
         Check.due("tongue and store", -2, x.tongue(0, 0));
+    }
+
+    /** Six bites of each dish, of 2 + 3 + 5 + 7 each time: 102 in all. */
+    private static void manyBites() {
+        String begin = "dish a 2 1 99; dish b 3 1 99; dish c 5 1 99; dish d 7 1 99; law 0 a = 6; law 0 b = 6; law 0 c = 6; law 0 d = 6;";
+        EatenToll x = Check.told(begin + "man m 20 0 0 0; belly p 20 5; belly q 20 6; belly r 21 7; belly s 21 8; belly t 99 30;");
+        hired(26, 15, x, 0, 0);
+        EatenToll six = Check.told(begin + "man m 0 0 0 0; belly p 17 1; belly q 17 1; belly r 17 1; belly s 17 1; belly t 17 1; belly u 17 1;");
+        hired(6, 63, six, 0, 0);
+        EatenToll less = Check.told(begin + "man m 0 0 0 0; belly p 17 1; belly q 17 1; belly r 17 1; belly s 17 1; belly t 17 1; belly u 16 1;");
+        hired(-2, -2, less, 0, 0);
+        EatenToll uneven = Check.told(begin + "man m 6 0 0 0; belly p 6 1; belly q 6 1; belly r 6 1; belly s 6 1; belly t 6 1; belly u 99 99;");
+        hired(99, 32, uneven, 0, 0);
+        EatenToll odd = Check.told("dish a 9 1 99; dish b 9 1 99; dish c 9 1 99; dish d 9 1 99; law 0 a = 6; law 0 b = 6; law 0 c = 6; law 0 d = 6;"
+            + "man m 44 0 0 0; belly p 44 1; belly q 44 1; belly r 44 1; belly s 44 1; belly t 53 1; belly u 44 2;");
+        hired(5, 31, odd, 0, 0);
+    }
+
+    private static void withSomeAhead() {
+        EatenToll x = Check.told("dish a 1 1 99; man m 2 0 0 0; man n 9 0 0 0; law 0 a = 1 + 2 * ahead; belly p 1 3;");
+        hired(0, 0, x, 0, 0);
+        Check.due("tongue(0, 0)", 0, x.tongue(0, 0));
+        x.pass(1, 0);
+        hired(3, 1, x, 0, 0);
+        Check.due("tongue(0, 0)", 1, x.tongue(0, 0));
+    }
+
+    private static void wideRooms() {
+        EatenToll x = Check.told("dish a 9 1 99; dish b 9 1 99; man m 99 0 0 0; man n 99 0 0 0; man o 98 0 0 0; man p 0 0 0 0;"
+            + "law 0 a = 6; law 0 b = 5; law 1 a = 6; law 1 b = 5 - 5 * ahead;");
+        pair(11, x, 0, 1);
+        pair(-2, x, 0, 2);
+        pair(-2, x, 2, 0);
+        Check.due("split(0, 3, 1)", -2, x.split(0, 3, 1));
+        EatenToll y = Check.told("dish a 9 1 99; man m 99 0 0 0; man n 9 0 0 0; man o 8 0 0 0; law 0 a = 6;");
+        pair(11, y, 0, 1);
+        pair(-2, y, 0, 2);
+        pair(1, y, 1, 0);
     }
 
     private static void tongue() {
