@@ -300,21 +300,23 @@ public final class EatenToll {
         if (!isSet(set) || !isGate(gate)) {
             return NONE;
         }
-        return planner.soonestHour(now, set, gate);
+        return planner.planDay(now, set, gate, Planner.WORTH_NOTHING);
     }
 
     public int least(int set, int gate, boolean gain) {
         if (!isSet(set) || !isGate(gate)) {
             return NONE;
         }
-        return gain ? planner.mostGain(now, set, gate) : planner.leastBulk(now, set, gate);
+        planner.planDay(now, set, gate, gain ? Planner.WORTH_GAIN : Planner.WORTH_BULK);
+        return planner.worthOfAll();
     }
 
     public int crowd(int set, int gate, int what) {
         if (!isSet(set) || !isGate(gate) || what < 0 || what > 1) {
             return NONE;
         }
-        int bits = planner.largestCrowd(now, set, gate);
+        planner.planDay(now, set, gate, Planner.WORTH_NOTHING);
+        int bits = planner.largestCrowd();
         return what == 1 ? bits : Integer.bitCount(bits);
     }
 
@@ -842,7 +844,8 @@ public final class EatenToll {
                 return false;
             }
             if (kind != due || taken >= MOST_TOKENS) {
-                fail(kind != due ? SYNTAX : ROOM);
+                fault = kind != due ? SYNTAX : ROOM;
+                faultPlace = tape.starts[taken];
                 return false;
             }
             tookPlace = tape.starts[taken];
@@ -1296,7 +1299,7 @@ public final class EatenToll {
         }
 
         boolean storesHave(Scene scene, Plate plate) {
-            for (int dish = 0; dish < told.dishes(); dish++) {
+            for (int dish = 0; dish < MOST_DISHES; dish++) {
                 if (plate.bites[dish] > scene.store(dish)) {
                     return false;
                 }
@@ -1589,33 +1592,8 @@ public final class EatenToll {
             this.plate = plate;
         }
 
-        int soonestHour(Scene now, int men, int byGate) {
-            return planDay(now, men, byGate, WORTH_NOTHING);
-        }
-
-        int leastBulk(Scene now, int men, int byGate) {
-            planDay(now, men, byGate, WORTH_BULK);
-            return worth[set] == NOT_REACHED ? CANNOT : -worth[set];
-        }
-
-        int mostGain(Scene now, int men, int byGate) {
-            planDay(now, men, byGate, WORTH_GAIN);
-            return worth[set] == NOT_REACHED ? CANNOT : worth[set];
-        }
-
-        int largestCrowd(Scene now, int men, int byGate) {
-            planDay(now, men, byGate, WORTH_NOTHING);
-            int largest = 0;
-            for (int passed = 0; passed <= set; passed++) {
-                if (worth[passed] != NOT_REACHED && Integer.bitCount(passed) > Integer.bitCount(largest)) {
-                    largest = passed;
-                }
-            }
-            return largest;
-        }
-
         /** The hour by which all can have passed; to know what it is worth the whole day is planned. */
-        private int planDay(Scene now, int men, int byGate, int by) {
+        int planDay(Scene now, int men, int byGate, int by) {
             trial.copyFrom(now);
             set = men;
             gate = byGate;
@@ -1634,6 +1612,21 @@ public final class EatenToll {
                 trial.letHourGoBy(told);
             }
             return allBy;
+        }
+
+        /** Bulk was counted below 0, so that the least of it is worth most. */
+        int worthOfAll() {
+            return worth[set] == NOT_REACHED ? CANNOT : Math.abs(worth[set]);
+        }
+
+        int largestCrowd() {
+            int largest = 0;
+            for (int passed = 0; passed <= set; passed++) {
+                if (worth[passed] != NOT_REACHED && Integer.bitCount(passed) > Integer.bitCount(largest)) {
+                    largest = passed;
+                }
+            }
+            return largest;
         }
 
         /** A set with one man more has a greater number, so one way up lets several pass in an hour. */

@@ -99,7 +99,7 @@ public final class LanguageTest {
         while (imports.find()) {
             right("import " + imports.group(1), imports.group(1).equals("java.util.Arrays"));
         }
-        Set<String> library = new TreeSet<>(List.of("Arrays.fill", "System.arraycopy", "Integer.bitCount", "Math.max", "Math.min"));
+        Set<String> library = new TreeSet<>(List.of("Arrays.fill", "System.arraycopy", "Integer.bitCount", "Math.abs", "Math.max", "Math.min"));
         Matcher calls = Pattern.compile("\\b(Arrays|System|Integer|Long|Math|String|Character)\\.(\\w+)").matcher(source);
         while (calls.find()) {
             right("the library's " + calls.group(), library.contains(calls.group()));
