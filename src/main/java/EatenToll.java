@@ -1383,6 +1383,7 @@ public final class EatenToll {
     /** Bites shared out: to hired bellies, under the tongue, between two men, and those owed. */
     private static final class Mouths {
         private static final int STATES = 7 * 7 * 7 * 7;
+        // A bin's number and what is in it make one number: every room is less than this.
         private static final int BIN = 128;
 
         private final Told told;
