@@ -4,6 +4,7 @@ import java.nio.charset.StandardCharsets;
 final class Check {
     private static int wrong = 0;
     private static int asked = 0;
+    private static String sentence = "";
 
     private Check() {
     }
@@ -12,12 +13,17 @@ final class Check {
         asked++;
         if (got != want) {
             wrong++;
-            System.out.println(call + " answered " + got + ", due is " + want);
+            System.out.println(sentence + call + " answered " + got + ", due is " + want);
         }
     }
 
     static void due(String call, boolean want, boolean got) {
         due(call, want ? 1 : 0, got ? 1 : 0);
+    }
+
+    /** The words of the document that the answers asked next are held against (QuotesTest compares them). */
+    static void says(String words) {
+        sentence = "\"" + words + "\": ";
     }
 
     static void end() {
@@ -47,6 +53,23 @@ final class Check {
             sum = sum << 8 | (i < bytes.length ? bytes[i] & 255 : ' ');
         }
         return sum;
+    }
+
+    /** A text that must have a fault where the mark @ stands in it, which is taken out. */
+    static void fault(int number, String marked) {
+        int place = marked.indexOf('@');
+        faultAt(number, place, marked.substring(0, place) + marked.substring(place + 1));
+    }
+
+    static void faultAt(int number, int place, String text) {
+        EatenToll x = new EatenToll();
+        put(x, text);
+        due("read() of " + text, number, x.read());
+        due("place() of " + text, place, x.place());
+    }
+
+    static void right(String text) {
+        faultAt(0, EatenToll.NONE, text);
     }
 
     /** A new object that has read a text without a fault. */

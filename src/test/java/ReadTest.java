@@ -18,102 +18,81 @@ public final class ReadTest {
         Check.end();
     }
 
-    /** A text that must have a fault where the mark @ stands in it, which is taken out. */
-    private static void fault(int number, String marked) {
-        int place = marked.indexOf('@');
-        String text = marked.substring(0, place) + marked.substring(place + 1);
-        faultAt(number, place, text);
-    }
-
-    private static void faultAt(int number, int place, String text) {
-        EatenToll x = new EatenToll();
-        Check.put(x, text);
-        Check.due("read() of " + text, number, x.read());
-        Check.due("place() of " + text, place, x.place());
-    }
-
-    private static void right(String text) {
-        EatenToll x = new EatenToll();
-        Check.put(x, text);
-        Check.due("read() of " + text, 0, x.read());
-        Check.due("place() of " + text, -1, x.place());
-    }
-
     private static void tokens() {
-        right("");
-        right(" \t\r\n ");
-        right("dish a1 2 3;");
-        right("dish\ta\r\n1 2 0003;");
-        right("dish abcdefgh 1 2 3;law 0abcdefgh=1+2;");
-        right("dish dishes 1 2 3; dish hourly 1 2 3; dish i 1 1 1;");
-        fault(1, "dish @abcdefghi 1 2 3;");
-        fault(1, "dish a @00001 2 3;");
-        fault(1, "dish a 1 2 3@.");
-        fault(1, "@A");
-        fault(1, "dish @B 1 2 3;");
-        fault(1, "dish a@_ 1 2 3;");
-        fault(1, DISH + "law 0 a = 1 @> 2;");
-        fault(1, "@#");
-        fault(1, DISH + "@\0");
+        Check.right("");
+        Check.right(" \t\r\n ");
+        Check.right("dish a1 2 3;");
+        Check.right("dish\ta\r\n1 2 0003;");
+        Check.right("dish abcdefgh 1 2 3;law 0abcdefgh=1+2;");
+        Check.right("dish dishes 1 2 3; dish hourly 1 2 3; dish i 1 1 1;");
+        Check.fault(1, "dish @abcdefghi 1 2 3;");
+        Check.fault(1, "dish a @00001 2 3;");
+        Check.fault(1, "dish a 1 2 3@.");
+        Check.fault(1, "@A");
+        Check.fault(1, "dish @B 1 2 3;");
+        Check.fault(1, "dish a@_ 1 2 3;");
+        Check.fault(1, DISH + "law 0 a = 1 @> 2;");
+        Check.fault(1, "@#");
+        Check.fault(1, DISH + "@\0");
         for (String word : new String[] {"dish", "man", "law", "if", "then", "else", "belly", "goes", "owe", "hates",
             "ill", "fast", "hour", "load", "room", "full", "ahead", "left", "sick"}) {
-            fault(1, "dish @" + word + " 1 2 3;");
-            right("dish x" + word + " 1 2 3;");
+            Check.fault(1, "dish @" + word + " 1 2 3;");
+            Check.right("dish x" + word + " 1 2 3;");
         }
     }
 
     private static void forms() {
-        fault(1, "dish@");
-        fault(1, "dish a 1 2 3@");
-        fault(1, "dish a 1 2 3   @");
-        fault(1, "dish a 1 2 @;");
-        fault(1, "dish a 1 2 3 @4;");
-        fault(1, DISH + "@;");
-        fault(1, "@a");
-        fault(1, "@1");
-        fault(1, "@if");
-        fault(1, "man a 1 1 1 @;");
-        fault(1, "man a 1 1 1 1 @hour;");
-        fault(1, "man a 1 1 1 1 hates @;");
-        fault(1, DISH + "man m 1 1 1 1 ill a @;");
-        fault(1, "man m 1 1 1 1 fast 1 @;");
-        fault(1, DISH + "man m 1 1 1 1 hates a @a;");
-        fault(1, "belly b 1 @;");
-        fault(1, "belly b 1 1 @1;");
-        fault(1, MEN + "goes m @n;");
-        fault(1, MEN + "owe m @3;");
-        fault(1, MEN + "owe m n @;");
-        fault(1, DISH + "law @a = 1;");
-        fault(1, DISH + "law 0 a @1;");
-        fault(1, DISH + "law 0 a = @;");
-        fault(1, DISH + "law 0 a = @-1;");
-        fault(1, DISH + "law 0 a = 1 + @;");
-        fault(1, DISH + "law 0 a = 1 * @/ 2;");
-        fault(1, DISH + "law 0 a = 1 @2;");
-        fault(1, DISH + "law 0 a = @a;");
-        fault(1, DISH + "law 0 a = (1@;");
-        fault(1, DISH + "law 0 a = (@);");
-        fault(1, DISH + "law 0 a = 1@);");
-        fault(1, DISH + "law 0 a = (1 @< 2);");
-        fault(1, DISH + "law 0 a = 1 @< 2;");
-        fault(1, DISH + "law 0 a = if 1 @then 2 else 3;");
-        fault(1, DISH + "law 0 a = if 1 < 2 @else 3;");
-        fault(1, DISH + "law 0 a = if 1 < 2 then 3 @;");
-        fault(1, DISH + "law 0 a = if 1 < 2 then 3 else @;");
-        fault(1, DISH + "law 0 a = if 1 < 2 then @if 1 < 2 then 3 else 4 else 5;");
-        fault(1, DISH + "law 0 a = (@if 1 < 2 then 3 else 4);");
-        fault(1, DISH + "law 0 a = if 1 < 2 then 3 else 4 @else 5;");
-        fault(1, DISH + "law 0 a = 1 + @if 1 < 2 then 3 else 4;");
-        right(DISH + "law 0 a = if hour < 2 then load else if room < full then ahead else left - sick * (1 + 2) / 3;");
-        right("man m 1 1 1 1 fast 1 2 fast 0 23;");
+        Check.fault(1, "dish@");
+        Check.fault(1, "dish a 1 2 3@");
+        Check.fault(1, "dish a 1 2 3   @");
+        Check.fault(1, "dish a 1 2 @;");
+        Check.fault(1, "dish a 1 2 3 @4;");
+        Check.fault(1, DISH + "@;");
+        Check.fault(1, "@a");
+        Check.fault(1, "@1");
+        Check.fault(1, "@if");
+        Check.fault(1, "man a 1 1 1 @;");
+        Check.fault(1, "man a 1 1 1 1 @hour;");
+        Check.fault(1, "man a 1 1 1 1 hates @;");
+        Check.fault(1, DISH + "man m 1 1 1 1 ill a @;");
+        Check.fault(1, "man m 1 1 1 1 fast 1 @;");
+        Check.fault(1, DISH + "man m 1 1 1 1 hates a @a;");
+        Check.fault(1, "belly b 1 @;");
+        Check.fault(1, "belly b 1 1 @1;");
+        Check.fault(1, MEN + "goes m @n;");
+        Check.fault(1, MEN + "owe m @3;");
+        Check.fault(1, MEN + "owe m n @;");
+        Check.fault(1, DISH + "law @a = 1;");
+        Check.fault(1, DISH + "law 0 a @1;");
+        Check.fault(1, DISH + "law 0 a = @;");
+        Check.fault(1, DISH + "law 0 a = @-1;");
+        Check.fault(1, DISH + "law 0 a = 1 + @;");
+        Check.fault(1, DISH + "law 0 a = 1 * @/ 2;");
+        Check.fault(1, DISH + "law 0 a = 1 @2;");
+        Check.fault(1, DISH + "law 0 a = @a;");
+        Check.fault(1, DISH + "law 0 a = (1@;");
+        Check.fault(1, DISH + "law 0 a = (@);");
+        Check.fault(1, DISH + "law 0 a = 1@);");
+        Check.fault(1, DISH + "law 0 a = (1 @< 2);");
+        Check.fault(1, DISH + "law 0 a = 1 @< 2;");
+        Check.fault(1, DISH + "law 0 a = if 1 @then 2 else 3;");
+        Check.fault(1, DISH + "law 0 a = if 1 < 2 @else 3;");
+        Check.fault(1, DISH + "law 0 a = if 1 < 2 then 3 @;");
+        Check.fault(1, DISH + "law 0 a = if 1 < 2 then 3 else @;");
+        Check.fault(1, DISH + "law 0 a = if 1 < 2 then @if 1 < 2 then 3 else 4 else 5;");
+        Check.fault(1, DISH + "law 0 a = (@if 1 < 2 then 3 else 4);");
+        Check.fault(1, DISH + "law 0 a = if 1 < 2 then 3 else 4 @else 5;");
+        Check.fault(1, DISH + "law 0 a = 1 + @if 1 < 2 then 3 else 4;");
+        Check.right(DISH + "law 0 a = if hour < 2 then load else if room < full then ahead else left - sick * (1 + 2) / 3;");
+        Check.right("man m 1 1 1 1 fast 1 2 fast 0 23;");
     }
 
     private static void rooms() {
         String dishes = "dish a 1 1 1;dish b 1 1 1;dish c 1 1 1;dish d 1 1 1;";
-        right(dishes);
-        fault(2, dishes + "@dish e 1 1 1;");
-        fault(2, dishes + "@dish");
-        fault(2, dishes + "@dish #");
+        Check.right(dishes);
+        Check.fault(2, dishes + "@dish e 1 1 1;");
+        Check.fault(2, dishes + "@dish");
+        Check.fault(2, dishes + "@dish #");
         StringBuilder men = new StringBuilder();
         StringBuilder bellies = new StringBuilder();
         for (int i = 0; i < 8; i++) {
@@ -122,104 +101,104 @@ public final class ReadTest {
         for (int i = 0; i < 6; i++) {
             bellies.append("belly b").append((char) ('a' + i)).append(" 9 0;");
         }
-        right(men + "" + bellies);
-        fault(2, men + "@man x 9 0 0 0;");
-        fault(2, bellies + "@belly x 9 0;");
-        right(MEN + "goes m 1;".repeat(20) + "owe m n 1;".repeat(20));
-        fault(2, MEN + "goes m 1;".repeat(20) + "@goes m 1;");
-        fault(2, MEN + "owe m n 1;".repeat(20) + "@owe m n 1;");
-        right(DISH + "law 0 a = 1;".repeat(8));
-        fault(2, DISH + "law 0 a = 1;".repeat(8) + "@law 0 a = 1;");
+        Check.right(men + "" + bellies);
+        Check.fault(2, men + "@man x 9 0 0 0;");
+        Check.fault(2, bellies + "@belly x 9 0;");
+        Check.right(MEN + "goes m 1;".repeat(20) + "owe m n 1;".repeat(20));
+        Check.fault(2, MEN + "goes m 1;".repeat(20) + "@goes m 1;");
+        Check.fault(2, MEN + "owe m n 1;".repeat(20) + "@owe m n 1;");
+        Check.right(DISH + "law 0 a = 1;".repeat(8));
+        Check.fault(2, DISH + "law 0 a = 1;".repeat(8) + "@law 0 a = 1;");
         String branch = "if 1 < 2 then 3 else ";
-        right(DISH + "law 0 a = " + branch.repeat(4) + "5; law 1 a = " + branch.repeat(4) + "5;");
-        fault(2, DISH + "law 0 a = " + branch.repeat(4) + "@" + branch + "5;");
-        right(DISH + "law 0 a = ((((((1)))))) + ((((((2))))));");
-        fault(2, DISH + "law 0 a = ((((((@(1)))))));");
-        fault(2, DISH + "law 0 a = 1 + 2 * (1 - 2 / (1 + 2 * (1 + 2 * (1 + 2 * (1 + 2 * (1 + 2 * @(");
-        fault(2, DISH + "law 0 a = if (((((1))))) < ((((((@(");
-        right(DISH + "law 0 a = 1+1*(1+1*(1+1*(1+1*(1+1*(1+1*(1+1*1))))));");
+        Check.right(DISH + "law 0 a = " + branch.repeat(4) + "5; law 1 a = " + branch.repeat(4) + "5;");
+        Check.fault(2, DISH + "law 0 a = " + branch.repeat(4) + "@" + branch + "5;");
+        Check.right(DISH + "law 0 a = ((((((1)))))) + ((((((2))))));");
+        Check.fault(2, DISH + "law 0 a = ((((((@(1)))))));");
+        Check.fault(2, DISH + "law 0 a = 1 + 2 * (1 - 2 / (1 + 2 * (1 + 2 * (1 + 2 * (1 + 2 * (1 + 2 * @(");
+        Check.fault(2, DISH + "law 0 a = if (((((1))))) < ((((((@(");
+        Check.right(DISH + "law 0 a = 1+1*(1+1*(1+1*(1+1*(1+1*(1+1*(1+1*1))))));");
     }
 
     private static void tokenRoom() {
         // 6 tokens of the dish, 4 ahead of the first unit, 2 for each further unit, the ';': 400.
         String all = DISH + "law 0 a = 1" + "+1".repeat(194) + ";";
-        right(all);
-        fault(1, all + "@;");
-        fault(2, all + "@goes");
+        Check.right(all);
+        Check.fault(1, all + "@;");
+        Check.fault(2, all + "@goes");
         String full = DISH + "law 0 a = (1)" + "+1".repeat(193) + ";";
-        fault(2, full.substring(0, full.length() - 1) + "+@1;");
+        Check.fault(2, full.substring(0, full.length() - 1) + "+@1;");
         // 14 tokens of the men, 16 of the goings, 6 of the third man, 3 of each fast: 399.
         String begin = MEN + "goes m 1;".repeat(4) + "man x 9 0 0 0 " + "fast 1 1 ".repeat(121);
-        fault(2, begin + "fast @1 1;");
-        fault(1, begin + "fast @x 1;");
-        fault(1, begin + "fast @#");
-        fault(1, begin + "fast @");
-        fault(2, begin + "; @law");
-        fault(1, begin + "; @fast");
-        right(begin + ";");
-        right(begin + ";   ");
-        fault(1, begin + ";   @#");
+        Check.fault(2, begin + "fast @1 1;");
+        Check.fault(1, begin + "fast @x 1;");
+        Check.fault(1, begin + "fast @#");
+        Check.fault(1, begin + "fast @");
+        Check.fault(2, begin + "; @law");
+        Check.fault(1, begin + "; @fast");
+        Check.right(begin + ";");
+        Check.right(begin + ";   ");
+        Check.fault(1, begin + ";   @#");
     }
 
     private static void names() {
-        fault(3, DISH + "dish @a 1 2 3;");
-        fault(3, DISH + "man @a 1 1 1 1;");
-        fault(3, DISH + "belly @a 1 1;");
-        fault(3, MEN + "belly @n 1 1;");
-        fault(3, "belly b 1 1; dish @b 1 1 1;");
-        fault(4, "man m 1 1 1 1 hates @a;");
-        fault(4, "man m 1 1 1 1 hates @a; " + DISH);
-        fault(4, DISH + "man m 1 1 1 1 hates @m;");
-        fault(4, DISH + "man m 1 1 1 1 ill @b 3;");
-        fault(4, "law 0 @a = 1; " + DISH);
-        fault(4, MEN + "law 0 @m = 1;");
-        fault(4, DISH + "goes @a 1;");
-        fault(4, "belly b 1 1; goes @b 1;");
-        fault(4, MEN + "owe m @x 1;");
-        fault(4, MEN + "owe @x m 1;");
-        fault(4, MEN + "owe @x x 1;");
-        fault(5, MEN + "owe m @m 1;");
-        right(DISH + "man m 1 1 1 1 hates a hates a ill a 1 ill a 6;");
+        Check.fault(3, DISH + "dish @a 1 2 3;");
+        Check.fault(3, DISH + "man @a 1 1 1 1;");
+        Check.fault(3, DISH + "belly @a 1 1;");
+        Check.fault(3, MEN + "belly @n 1 1;");
+        Check.fault(3, "belly b 1 1; dish @b 1 1 1;");
+        Check.fault(4, "man m 1 1 1 1 hates @a;");
+        Check.fault(4, "man m 1 1 1 1 hates @a; " + DISH);
+        Check.fault(4, DISH + "man m 1 1 1 1 hates @m;");
+        Check.fault(4, DISH + "man m 1 1 1 1 ill @b 3;");
+        Check.fault(4, "law 0 @a = 1; " + DISH);
+        Check.fault(4, MEN + "law 0 @m = 1;");
+        Check.fault(4, DISH + "goes @a 1;");
+        Check.fault(4, "belly b 1 1; goes @b 1;");
+        Check.fault(4, MEN + "owe m @x 1;");
+        Check.fault(4, MEN + "owe @x m 1;");
+        Check.fault(4, MEN + "owe @x x 1;");
+        Check.fault(5, MEN + "owe m @m 1;");
+        Check.right(DISH + "man m 1 1 1 1 hates a hates a ill a 1 ill a 6;");
     }
 
     private static void numbers() {
-        right("dish a 1 0 0; dish b 9 99 999; man m 0 0 0 0; man n 99 99 9 999 ill a 1 ill b 6 fast 0 0;");
-        right(MEN + "goes m 0; goes m 23; owe m n 1; owe m n 99; belly x 0 0; belly y 99 99;");
-        fault(5, "dish a @0 1 1;");
-        fault(5, "dish a @10 1 1;");
-        fault(5, "dish a 1 @100 1;");
-        fault(5, "dish a 1 1 @1000;");
-        fault(5, "man a @100 1 1 1;");
-        fault(5, "man a 5 @6 1 1;");
-        fault(5, "man a 5 5 @10 1;");
-        fault(5, "man a 5 5 1 @1000;");
-        fault(5, DISH + "man m 5 5 1 1 ill a @0;");
-        fault(5, DISH + "man m 5 5 1 1 ill a @7;");
-        fault(5, "man m 5 5 1 1 fast @24 24;");
-        fault(5, "man m 5 5 1 1 fast 0 @24;");
-        fault(5, "man m 5 5 1 1 fast 5 @4;");
-        right("man m 5 5 1 1 fast 5 5;");
-        fault(5, "belly b @100 0;");
-        fault(5, "belly b 0 @100;");
-        fault(5, MEN + "goes m @24;");
-        fault(5, MEN + "owe m n @0;");
-        fault(5, MEN + "owe m n @100;");
-        fault(5, DISH + "law @2 a = 1;");
-        right(DISH + "law 1 a = 9999 * 9999 * 9999;");
+        Check.right("dish a 1 0 0; dish b 9 99 999; man m 0 0 0 0; man n 99 99 9 999 ill a 1 ill b 6 fast 0 0;");
+        Check.right(MEN + "goes m 0; goes m 23; owe m n 1; owe m n 99; belly x 0 0; belly y 99 99;");
+        Check.fault(5, "dish a @0 1 1;");
+        Check.fault(5, "dish a @10 1 1;");
+        Check.fault(5, "dish a 1 @100 1;");
+        Check.fault(5, "dish a 1 1 @1000;");
+        Check.fault(5, "man a @100 1 1 1;");
+        Check.fault(5, "man a 5 @6 1 1;");
+        Check.fault(5, "man a 5 5 @10 1;");
+        Check.fault(5, "man a 5 5 1 @1000;");
+        Check.fault(5, DISH + "man m 5 5 1 1 ill a @0;");
+        Check.fault(5, DISH + "man m 5 5 1 1 ill a @7;");
+        Check.fault(5, "man m 5 5 1 1 fast @24 24;");
+        Check.fault(5, "man m 5 5 1 1 fast 0 @24;");
+        Check.fault(5, "man m 5 5 1 1 fast 5 @4;");
+        Check.right("man m 5 5 1 1 fast 5 5;");
+        Check.fault(5, "belly b @100 0;");
+        Check.fault(5, "belly b 0 @100;");
+        Check.fault(5, MEN + "goes m @24;");
+        Check.fault(5, MEN + "owe m n @0;");
+        Check.fault(5, MEN + "owe m n @100;");
+        Check.fault(5, DISH + "law @2 a = 1;");
+        Check.right(DISH + "law 1 a = 9999 * 9999 * 9999;");
     }
 
     /** Form and room come ahead of sense, wherever they stand; else the first place counts. */
     private static void order() {
-        fault(1, "dish a 0 1 1; dish a 1 1 1; goes x 1@");
-        fault(2, "dish a 0 1 1;" + "dish b 1 1 1;".repeat(3) + "@dish c 1 1 1;");
-        fault(2, "dish a 1 1 1;".repeat(4) + "@dish a 1 1 1; #");
-        fault(1, "@#" + "dish a 1 1 1;".repeat(5));
-        fault(5, "dish a @0 1 1; dish a 1 1 1;");
-        fault(3, "dish a 1 1 1; dish @a 0 1 1;");
-        fault(5, "law @2 x = 1;");
-        fault(4, "owe @x y 0;");
-        fault(5, "man m @100 101 10 1000 hates x;");
-        fault(4, "man m 1 1 1 1 hates @x ill y 9 fast 30 2;");
+        Check.fault(1, "dish a 0 1 1; dish a 1 1 1; goes x 1@");
+        Check.fault(2, "dish a 0 1 1;" + "dish b 1 1 1;".repeat(3) + "@dish c 1 1 1;");
+        Check.fault(2, "dish a 1 1 1;".repeat(4) + "@dish a 1 1 1; #");
+        Check.fault(1, "@#" + "dish a 1 1 1;".repeat(5));
+        Check.fault(5, "dish a @0 1 1; dish a 1 1 1;");
+        Check.fault(3, "dish a 1 1 1; dish @a 0 1 1;");
+        Check.fault(5, "law @2 x = 1;");
+        Check.fault(4, "owe @x y 0;");
+        Check.fault(5, "man m @100 101 10 1000 hates x;");
+        Check.fault(4, "man m 1 1 1 1 hates @x ill y 9 fast 30 2;");
     }
 
     private static void whatStays() {
