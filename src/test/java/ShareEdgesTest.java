@@ -146,7 +146,10 @@ public final class ShareEdgesTest {
     }
 
     private static void tongueHates() {
-        Check.says("(he HATES none of the rest, if he FASTS there is no rest; SICK: as well)");
+        Check.says("(he HATES none of the rest, if he FASTS there is no rest; SICK: as well): of alike ones it does not matter which.");
+        EatenToll alike = Check.told("dish a 2 0 9; dish b 2 9 9; man m 3 0 0 0; man n 4 0 0 0; law 0 a = 1; law 0 b = 1;");
+        Check.due("either of two", 1, alike.tongue(0, 0));
+        Check.due("none of two", 0, alike.tongue(1, 0));
         EatenToll x = Check.told("dish a 1 0 9; dish b 1 0 9; man p 9 0 0 0; man q 9 0 0 0 hates a; man r 9 0 0 0 hates b; man s 9 0 0 0 hates a hates b;"
             + "man t 9 0 0 0 fast 2 3; man u 9 0 0 0 ill a 1; law 0 a = 1; law 0 b = 2; law 1 a = 1;");
         int[] kept = {0, 1, 2, 3, 0, 0};
@@ -274,7 +277,7 @@ public final class ShareEdgesTest {
     }
 
     private static void togetherStores() {
-        Check.says("STORES have enough for both)");
+        Check.says("STORES have enough for both): 1, else 0;");
         for (int store = 4; store <= 6; store++) {
             EatenToll x = Check.told("dish b 1 0 9; dish a 1 0 " + store + "; man m 9 0 0 0; man n 9 0 0 0; law 0 a = 2 + ahead; law 1 b = 1;");
             pair("2 and 3 bites, STORE " + store, store < 5 ? -2 : 0, x, 0, 1);

@@ -7,6 +7,7 @@ public final class TextEdgesTest {
         dishes();
         men();
         fullUpToBelly();
+        hates();
         ill();
         fast();
         bellies();
@@ -81,6 +82,22 @@ public final class TextEdgesTest {
         for (int belly : new int[] {0, 1, 2, 50, 98, 99}) {
             number("man m " + belly + " ", 0, belly, " 0 0;");
         }
+    }
+
+    private static void hates() {
+        Check.says("the DISHES he HATES,");
+        for (int hated = 0; hated < 16; hated++) {
+            StringBuilder text = new StringBuilder("dish a 1 0 9; dish b 1 0 9; dish c 1 0 9; dish d 1 0 9; man m 9 0 0 0");
+            for (int dish = 0; dish < 4; dish++) {
+                text.append((hated >> dish & 1) != 0 ? " hates " + "abcd".charAt(dish) : "");
+            }
+            EatenToll x = Check.told(text + "; law 0 a = 1 - hour; law 0 b = hour * (2 - hour); law 1 c = 1 - hour; law 1 d = hour * (2 - hour);");
+            for (int dish = 0; dish < 4; dish++) {
+                Check.due("hates " + hated + ", a bite of " + dish, (hated >> dish & 1) != 0 ? 3 : 0, x.may(0, dish / 2));
+                x.later(dish % 2 == 0 ? 1 : 23);
+            }
+        }
+        Check.right(DISH + "man m 9 0 0 0 hates a hates a;");
     }
 
     private static void ill() {
@@ -241,7 +258,7 @@ public final class TextEdgesTest {
     }
 
     private static void firstByPlace() {
-        Check.says("the first by its place (a byte; the text's end: its length)");
+        Check.says("FAULTS of a text, the first by its place (a byte; the text's end: its length)");
         Check.fault(1, "@;" + "dish a 1 1 1;".repeat(5));
         Check.fault(1, "dish a 1 1 1;".repeat(4) + "@; dish a 1 1 1;");
         Check.fault(2, "dish a 1 1 1;".repeat(4) + "@dish ;");

@@ -16,8 +16,7 @@ public final class TokenEdgesTest {
         digits();
         signs();
         noTokens();
-        prefixes();
-        oneTokenMore();
+        tells();
         repeated();
         Check.end();
     }
@@ -198,16 +197,7 @@ public final class TokenEdgesTest {
         Check.fault(1, "dish a@.b 1 2 3;");
     }
 
-    private static final String[][] TELLS = {
-        {"dish", "b", "1", "2", "3", ";"},
-        {"man", "p", "9", "0", "0", "0", ";"},
-        {"man", "p", "9", "0", "0", "0", "hates", "a", "ill", "a", "2", "fast", "3", "4", ";"},
-        {"belly", "c", "1", "2", ";"},
-        {"goes", "m", "3", ";"},
-        {"owe", "m", "n", "4", ";"},
-        {"law", "0", "a", "=", "1", ";"},
-        {"law", "1", "a", "=", "hour", "+", "load", "-", "room", "*", "full", "/", "ahead", ";"},
-        {"law", "1", "a", "=", "if", "left", "<", "sick", "then", "3", "else", "if", "1", "<", "2", "then", "4", "else", "5", ";"}};
+    private static final String TOLD = DISH + "man m 9 0 0 0; man n 9 0 0 0;";
 
     private static String joined(String[] tokens, int from, int to) {
         StringBuilder b = new StringBuilder();
@@ -217,34 +207,53 @@ public final class TokenEdgesTest {
         return b.toString();
     }
 
-    /** A tell that ends too early has its fault at the text's end, behind all blanks. */
-    private static void prefixes() {
-        Check.says("1 SYNTAX: a TOKEN, or what is none, with which no text goes on.");
-        String begin = DISH + "man m 9 0 0 0; man n 9 0 0 0;";
-        for (String[] tell : TELLS) {
-            Check.right(begin + joined(tell, 0, tell.length));
-            for (int tokens = 1; tokens < tell.length; tokens++) {
-                Check.fault(1, begin + joined(tell, 0, tokens) + "@");
-                Check.fault(1, begin + joined(tell, 0, tokens).trim() + "@");
+    /** A tell is right whole; where it ends too early, or has a token more, is its fault. */
+    private static void tell(String whole) {
+        String[] tokens = whole.split(" ");
+        Check.right(TOLD + whole);
+        for (int place = 1; place < tokens.length; place++) {
+            Check.fault(1, TOLD + joined(tokens, 0, place) + "@");
+            Check.fault(1, TOLD + joined(tokens, 0, place).trim() + "@");
+            Check.fault(1, TOLD + joined(tokens, 0, place) + "@dish " + joined(tokens, place, tokens.length));
+        }
+        // None of these goes on anywhere in a tell without brackets, nor begins one.
+        for (String no : new String[] {")", "#", "abcdefghi", "12345"}) {
+            for (int place = 0; place <= tokens.length; place++) {
+                Check.fault(1, TOLD + joined(tokens, 0, place) + "@" + no + " " + joined(tokens, place, tokens.length));
             }
         }
     }
 
-    /** None of these goes on anywhere in a tell without brackets, but behind its end: there a tell begins. */
-    private static void oneTokenMore() {
-        String begin = DISH + "man m 9 0 0 0; man n 9 0 0 0;";
-        for (String[] tell : TELLS) {
-            for (int place = 0; place <= tell.length; place++) {
-                String ahead = begin + joined(tell, 0, place) + "@";
-                String behind = " " + joined(tell, place, tell.length);
-                Check.fault(1, ahead + ")" + behind);
-                Check.fault(1, ahead + "#" + behind);
-                Check.fault(1, ahead + "abcdefghi" + behind);
-                if (place > 0 && place < tell.length) {
-                    Check.fault(1, ahead + "dish" + behind);
-                }
-            }
+    private static void tells() {
+        Check.says("1 SYNTAX: a TOKEN, or what is none, with which no text goes on.");
+        tell("dish b 1 2 3 ;");
+        tell("law 0 a = 1 ;");
+        Check.says("TELL: 'dish' NAME INT INT INT ';'");
+        tell("dish c 9 0 0 ;");
+        Check.says("'man' NAME INT INT INT INT {TRAIT} ';'");
+        tell("man p 9 0 0 0 ;");
+        tell("man p 9 0 0 0 hates a ill a 2 fast 3 4 hates a ;");
+        Check.says("TRAIT: 'hates' NAME | 'ill' NAME INT | 'fast' INT INT.");
+        tell("man p 9 0 0 0 hates a ;");
+        tell("man p 9 0 0 0 ill a 2 ;");
+        tell("man p 9 0 0 0 fast 3 4 ;");
+        Check.says("'law' INT NAME '=' {'if' E '<' E 'then' E 'else'} E ';'");
+        tell("law 1 a = if 1 < 2 then 3 else 4 ;");
+        tell("law 1 a = if left < sick then 3 else if 1 < 2 then 4 else 5 ;");
+        Check.says("'belly' NAME INT INT ';'");
+        tell("belly c 1 2 ;");
+        Check.says("'goes' NAME INT ';'");
+        tell("goes m 3 ;");
+        Check.says("'owe' NAME NAME INT ';'");
+        tell("owe m n 4 ;");
+        Check.says("VAR: 'hour' | 'load' | 'room' | 'full' | 'ahead' | 'left' | 'sick'.");
+        for (String var : new String[] {"hour", "load", "room", "full", "ahead", "left", "sick"}) {
+            tell("law 0 a = " + var + " + " + var + " ;");
+            Check.fault(1, TOLD + "law 0 a = @" + var + "s;");
+            Check.fault(1, TOLD + "law 0 a = @" + var.substring(1) + ";");
         }
+        Check.fault(1, TOLD + "law 0 a = @a;");
+        Check.fault(1, TOLD + "law 0 a = @m;");
     }
 
     private static void repeated() {

@@ -36,7 +36,7 @@ public final class TollEdgesTest {
     }
 
     private static void heldToSix() {
-        Check.says("of each DISH so many bites as its LAW tells, held to 0 .. 6:");
+        Check.says("TOLL of a MAN at a GATE: of each DISH so many bites as its LAW tells, held to 0 .. 6:");
         int[][] held = {{0, 0}, {1, 1}, {2, 2}, {5, 5}, {6, 6}, {7, 6}, {8, 6}, {9999, 6}};
         for (int[] h : held) {
             law(h[1], String.valueOf(h[0]));
