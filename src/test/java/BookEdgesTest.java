@@ -15,6 +15,7 @@ public final class BookEdgesTest {
         noneIsOdd();
         oddOfFirstK();
         led();
+        ledOfEight();
         ledOfNoSuch();
         ledNotAllMay();
         Check.end();
@@ -258,6 +259,26 @@ public final class BookEdgesTest {
                 Check.due("led(" + k + ", " + asked[i][0] + ", " + asked[i][1] + ")", due[k][i], x.led(k, asked[i][0], asked[i][1]));
             }
         }
+    }
+
+    private static void ledOfEight() {
+        StringBuilder text = new StringBuilder("dish a 1 1 99; dish b 1 1 99; dish c 1 1 99; dish d 1 1 99;");
+        for (int man = 0; man < 8; man++) {
+            text.append("man m").append((char) ('a' + man)).append(" 99 0 0 ").append(man).append(";");
+        }
+        EatenToll x = Check.told(text + "law 0 a = 1; law 0 b = 2 + load / 7; law 0 c = 4; law 0 d = 6 - load / 7;");
+        for (int man = 0; man < 8; man++) {
+            x.enter(man, 0, 3 * man);
+        }
+        int[] due = {1, 2, 4, 6};
+        int[] last = {1, 3, 4, 5};
+        for (int dish = 0; dish < 4; dish++) {
+            Check.due("by the first, of " + dish, due[dish], x.led(8, 0, dish));
+            Check.due("by the seventh, of " + dish, due[dish], x.led(8, 6, dish));
+            Check.due("by the eighth, of " + dish, last[dish], x.led(8, 7, dish));
+            Check.due("by all, of " + dish, 7 * due[dish] + last[dish], x.led(8, -1, dish));
+        }
+        Check.due("by all, of all", 8 * 13, x.led(8, -1, -1));
     }
 
     private static void ledOfNoSuch() {

@@ -379,7 +379,10 @@ public final class CallEdgesTest {
             Check.due("things that can be undone of " + things, can, x.count(9));
             for (int i = 0; i < can; i++) {
                 Check.due("undo no. " + i, true, x.undo());
+                int left = things - 1 - i;
                 Check.due("count(9)", can - 1 - i, x.count(9));
+                Check.due("passes that are left", (left + 1) / 2, x.man(0, 3));
+                Check.due("hours that are left", left / 2, x.count(5));
             }
             Check.due("one more", false, x.undo());
             int stays = things - can;

@@ -169,6 +169,11 @@ public final class PlanEdgesTest {
         Check.due("one alone", 6, x.least(2, 1, true));
         EatenToll y = Check.told("dish a 9 99 9; dish b 9 99 9; man p 99 0 0 0; man q 99 0 0 0; man r 99 0 0 0; man s 99 0 0 0; man t 99 0 0 0; man u 99 0 0 0;"
             + "man v 99 0 0 0; man w 99 0 0 0; law 0 a = 6; law 0 b = 5;");
+        EatenToll ahead = Check.told("dish a 1 1 9; man p 9 0 0 0; man q 9 0 0 0; man r 9 0 0 0; man s 9 0 0 0; man t 9 0 0 0; man u 9 0 0 0; man v 9 0 0 0;"
+            + "man w 9 0 0 0; law 0 a = ahead; law 1 a = ahead - 4;");
+        Check.due("0 + 1 .. + 6 + 6", 27, ahead.least(255, 0, false));
+        Check.due("0 .. + 1 + 2 + 3", 6, ahead.least(255, 1, true));
+        Check.due("0 .. + 1 + 2", 3, ahead.least(127, 1, false));
         Check.due("eight times 99", 792, y.least(255, 0, false));
         Check.due("eight times 11 * 99", 8712, y.least(255, 0, true));
     }

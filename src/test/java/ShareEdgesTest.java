@@ -18,6 +18,8 @@ public final class ShareEdgesTest {
         oneMoreAhead();
         togetherStores();
         fewest();
+        fewestOfHated();
+        manyBites();
         Check.end();
     }
 
@@ -282,6 +284,34 @@ public final class ShareEdgesTest {
             EatenToll x = Check.told("dish b 1 0 9; dish a 1 0 " + store + "; man m 9 0 0 0; man n 9 0 0 0; law 0 a = 2 + ahead; law 1 b = 1;");
             pair("2 and 3 bites, STORE " + store, store < 5 ? -2 : 0, x, 0, 1);
             Check.due("another dish", 1, x.together(0, 1, 1));
+        }
+    }
+
+    /** What the other one hates goes to the first, as far as his room goes. */
+    private static void fewestOfHated() {
+        for (int room = 21; room <= 23; room++) {
+            EatenToll x = Check.told("dish a 2 0 99; dish b 5 0 99; dish c 1 0 99; man m " + room + " 0 0 0; man n 99 0 0 0 hates a hates b;"
+                + "man o 99 0 0 0; law 0 a = 3; law 0 b = 1; law 0 c = 1;");
+            // Both tolls: six of a, two of b, two of c: bulk 22 of what he hates.
+            pair("22 that the other hates, room " + room, room < 22 ? -2 : 8, x, 0, 1);
+            pair("22 that the first hates, room " + room, room < 22 ? -2 : 24 - room, x, 1, 0);
+            pair("the other hates nothing, room " + room, 0, x, 0, 2);
+        }
+        EatenToll tight = Check.told("dish a 2 0 99; dish b 5 0 99; dish c 1 0 99; man m 23 0 0 0; man n 1 0 0 0 hates a hates b; man o 0 0 0 0 hates a; law 0 a = 3; law 0 b = 1; law 0 c = 1;");
+        pair("22 and one of c more, rooms 23 and 1", 9, tight, 0, 1);
+        pair("22 and two of c more, rooms 23 and 0", -2, tight, 0, 2);
+    }
+
+    /** Six bites of each of four dishes, and twice as many of two men. */
+    private static void manyBites() {
+        Check.says("so many bites of his TOLL, whatever DISHES;");
+        for (int room = 4; room <= 6; room++) {
+            EatenToll x = Check.told("dish a 1 0 99; dish b 2 0 99; dish c 3 0 99; dish d 4 0 99; man m 6 0 0 0; man n 30 0 0 0; man o " + (85 + room) + " 0 0 0;"
+                + "law 0 a = 6; law 0 b = 6; law 0 c = 6; law 0 d = 6; belly p 9 1; belly q 10 2; belly r 10 4; belly s 10 8; belly t 10 16; belly u " + room + " 32;");
+            hired("BULK 60, room 6 + 9 + 40 + " + room, room < 5 ? -2 : 63, room < 5 ? -2 : 63, x, 0, 0);
+            // 24 bites of 60 in 30: 6 of a, 6 of b, 4 of c.
+            Check.due("tongue of 60, room 30", 8, x.tongue(1, 0));
+            pair("48 bites of 120, rooms 30 and " + (85 + room), room < 5 ? -2 : 8, x, 1, 2);
         }
     }
 

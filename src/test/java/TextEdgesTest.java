@@ -26,6 +26,8 @@ public final class TextEdgesTest {
         owesHimself();
         aFaultChangesNothing();
         inPlaceOfTheOneAhead();
+        nothingIsLeft();
+        fullTextsAgain();
         Check.end();
     }
 
@@ -307,6 +309,10 @@ public final class TextEdgesTest {
                 Check.fault(3, first.replace("#", "abcdefgh") + second.replace("#", "@abcdefgh"));
             }
         }
+        for (char letter = 'a'; letter <= 'z'; letter++) {
+            Check.right("dish " + letter + " 1 1 1; man " + letter + letter + " 9 0 0 0; belly " + letter + letter + letter + " 9 0;");
+            Check.fault(3, "dish " + letter + " 1 1 1; man @" + letter + " 9 0 0 0;");
+        }
         Check.fault(3, "man a 1 0 0 0; man b 1 0 0 0; man c 1 0 0 0; man d 1 0 0 0; man e 1 0 0 0; man f 1 0 0 0; man g 1 0 0 0; man @g 1 0 0 0;");
         Check.fault(3, "belly a 1 0; belly b 1 0; belly c 1 0; belly d 1 0; belly e 1 0; belly @e 1 0;");
         Check.fault(3, "dish a 1 0 0; dish b 1 0 0; dish c 1 0 0; dish @c 1 0 0;");
@@ -392,6 +398,37 @@ public final class TextEdgesTest {
         Check.due("no BOOK", -1, x.judge(1));
         for (int slot = 0; slot < 3; slot++) {
             Check.due("SLOT " + slot + " holds nothing", false, x.restore(slot));
+        }
+    }
+
+    /** Neither laws nor traits of the text ahead are left. */
+    private static void nothingIsLeft() {
+        String two = "dish a 1 1 9; dish b 1 1 9; man m 9 0 0 0; man n 9 0 0 0;";
+        EatenToll x = Check.told(two.replace("0;", "0 hates a ill b 1 fast 0 23;") + "law 0 a = 1; law 0 b = 2; law 1 a = 3; law 1 b = 4;");
+        Check.put(x, two);
+        Check.due("read()", 0, x.read());
+        for (int gate = 0; gate < 2; gate++) {
+            for (int dish = 0; dish < 2; dish++) {
+                Check.due("toll(0, " + gate + ", " + dish + ")", 0, x.toll(0, gate, dish));
+            }
+        }
+        Check.put(x, two + "law 0 a = 1; law 1 b = 1;");
+        Check.due("read()", 0, x.read());
+        for (int man = 0; man < 2; man++) {
+            Check.due("no hate, no fast: pass(" + man + ", 0)", 0, x.pass(man, 0));
+            Check.due("no illness: pass(" + man + ", 1)", 0, x.pass(man, 1));
+            Check.due("no illness: man(" + man + ", 2)", 0, x.man(man, 2));
+        }
+        Check.due("no bite of b at gate 0", 0, x.toll(0, 0, 1));
+    }
+
+    /** A text of 400 tokens finds the same room behind others of them. */
+    private static void fullTextsAgain() {
+        EatenToll x = new EatenToll();
+        for (int time = 1; time <= 5; time++) {
+            Check.put(x, "dish a 1 2 3;law 0 a=1" + "+0".repeat(189) + ";" + "man m 9 0 0 0 fast 1 1;");
+            Check.due("read() of 400 tokens", 0, x.read());
+            Check.due("toll(0, 0, 0)", 1, x.toll(0, 0, 0));
         }
     }
 }

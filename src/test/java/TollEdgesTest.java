@@ -13,6 +13,7 @@ public final class TollEdgesTest {
         hour();
         loadRoomFull();
         ahead();
+        aheadOfAll();
         left();
         sick();
         notSick();
@@ -22,6 +23,7 @@ public final class TollEdgesTest {
         bulk();
         firstReason();
         swallowsAll();
+        swallowsOfFour();
         makesIll();
         sickForTwelve();
         empties();
@@ -183,6 +185,22 @@ public final class TollEdgesTest {
         Check.due("two by gate 0", 2, x.toll(0, 0, 0));
     }
 
+    /** Whoever asks about a toll asks with those ahead. */
+    private static void aheadOfAll() {
+        EatenToll x = Check.told("dish a 1 0 99; man m 3 0 0 0; man n 99 0 0 0; law 0 a = 1 + 2 * ahead; belly p 1 7; belly q 2 9;");
+        int[] why = {0, 0, 5, 5};
+        int[] fees = {0, 0, 9, 16};
+        int[] kept = {0, 0, 2, 3};
+        for (int ahead = 0; ahead < 4; ahead++) {
+            Check.due("bites, ahead " + ahead, Math.min(6, 1 + 2 * ahead), x.toll(0, 0, 0));
+            Check.due("may, ahead " + ahead, why[ahead], x.may(0, 0));
+            Check.due("hire, ahead " + ahead, fees[ahead], x.hire(0, 0, 0));
+            Check.due("tongue, ahead " + ahead, kept[ahead], x.tongue(0, 0));
+            Check.due("when, ahead " + ahead, ahead < 2 ? 0 : -2, x.when(0, 0));
+            x.pass(1, 0);
+        }
+    }
+
     private static void left() {
         Check.says("left (STORE of the DISH),");
         EatenToll x = Check.told("dish a 1 0 5; dish b 1 0 0; dish c 1 0 999; man m 99 0 0 0; law 0 a = left; law 0 b = left; law 0 c = left - 995;"
@@ -324,6 +342,18 @@ public final class TollEdgesTest {
         }
     }
 
+    private static void swallowsOfFour() {
+        EatenToll x = Check.told("dish a 1 1 9; dish b 2 3 9; dish c 3 5 9; dish d 4 7 9; man m 99 0 0 0; law 0 a = 1; law 0 b = 2; law 0 c = 3; law 0 d = 4;");
+        x.pass(0, 0);
+        Check.due("FULL", 1 + 4 + 9 + 16, x.man(0, 0));
+        Check.due("swallowed", 10, x.man(0, 3));
+        Check.due("gained(0)", 1 + 6 + 15 + 28, x.gained(0));
+        for (int dish = 0; dish < 4; dish++) {
+            Check.due("STORE of " + dish, 8 - dish, x.dish(dish, 0));
+            Check.due("swallowed of " + dish, 1 + dish, x.dish(dish, 3));
+        }
+    }
+
     private static void makesIll() {
         Check.says("of whatever DISH he swallows as many at once as make him ILL or more: he is SICK for 12 hours.");
         for (int ill = 1; ill <= 6; ill++) {
@@ -395,6 +425,16 @@ public final class TollEdgesTest {
             Check.due("man 1 has passed", d[3], x.man(1, 5));
             Check.due("passed by gate 0", d[3], x.count(11));
             Check.due("passed by gate 1", d[3], x.count(12));
+        }
+        EatenToll eight = Check.told("man a 9 9 1 0; man b 9 9 1 0; man c 9 9 1 0; man d 9 9 1 0; man e 9 9 1 0; man f 9 9 1 0; man g 9 9 1 0; man h 9 9 1 0;");
+        for (int man = 0; man < 8; man++) {
+            eight.pass(man, man % 2);
+        }
+        for (int hour = 22; hour <= 24; hour++) {
+            eight.later(hour == 22 ? 22 : 1);
+            for (int man = 0; man < 8; man++) {
+                Check.due("man " + man + " has passed, hour " + hour, hour < 24 ? 1 : 0, eight.man(man, 5));
+            }
         }
     }
 }
