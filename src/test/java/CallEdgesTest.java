@@ -145,6 +145,16 @@ public final class CallEdgesTest {
         x.feed(0x34353b20, BLANKS, BLANKS, BLANKS, BLANKS);
         Check.due("read()", 0, x.read());
         Check.due("STORE 345", 345, x.dish(0, 0));
+        // What was taken back is not read: the text ends ahead of it, in the middle of a token.
+        String[] texts = {"dish a 1 2 3@45;", "dish@es", "dish a@b", "dish @   ", "dish a 1 2 3@;", "@#"};
+        for (String text : texts) {
+            int end = text.indexOf('@');
+            EatenToll y = new EatenToll();
+            Check.put(y, text.replace("@", ""));
+            Check.due("back of " + text, end, y.back(text.length() - 1 - end));
+            Check.due("read() of " + text, end == 0 ? 0 : 1, y.read());
+            Check.due("place() of " + text, end == 0 ? -1 : end, y.place());
+        }
     }
 
     private static void read() {

@@ -11,6 +11,7 @@ public final class DayEdgesTest {
         ofThoseWhereHeMay();
         toNone();
         whatWouldBe();
+        whoWasAhead();
         allThatMayBe();
         nets();
         noHands();
@@ -104,6 +105,21 @@ public final class DayEdgesTest {
         days("from hour 2 on", x, 3 + 6, 0, 3, 2);
         x.later(22);
         days("the next day", x, 9, 0, 3, 3);
+    }
+
+    /** Who has passed this day by a gate is ahead in the trial too; what the gates had gained is not of it. */
+    private static void whoWasAhead() {
+        EatenToll x = Check.told("dish a 1 3 99; man p 9 0 9 0; man q 2 0 0 0; law 0 a = 1 + ahead; law 1 a = 2 + ahead; goes q 1;");
+        days("none ahead", x, 3, 0, 2, 0);
+        x.pass(0, 0);
+        days("one ahead by gate 0: 2 and 2 bites", x, 6, 0, 2, 0);
+        x.pass(0, 0);
+        days("two ahead by gate 0: 3 and 2 bites", x, 0, 6, 2, 0);
+        x.pass(0, 1);
+        days("one ahead by gate 1 too: 3 and 3 bites", x, 0, 0, 0, 1);
+        Check.due("gained(0)", 9, x.gained(0));
+        x.later(24);
+        days("none ahead the next day", x, 3, 0, 2, 0);
     }
 
     private static void allThatMayBe() {

@@ -298,6 +298,12 @@ public final class ShareEdgesTest {
             pair("the other hates nothing, room " + room, 0, x, 0, 2);
         }
         EatenToll tight = Check.told("dish a 2 0 99; dish b 5 0 99; dish c 1 0 99; man m 23 0 0 0; man n 1 0 0 0 hates a hates b; man o 0 0 0 0 hates a; law 0 a = 3; law 0 b = 1; law 0 c = 1;");
+        EatenToll most = Check.told("dish a 9 0 99; dish b 9 0 99; dish c 9 0 99; dish d 9 0 99; man m 99 0 0 0; man n 99 0 0 0 hates a hates b hates c hates d;"
+            + "law 0 a = 6; law 0 b = 6; law 0 c = 6; law 0 d = 6; law 1 a = if ahead < 1 then 6 else 5;");
+        pair("432 that the other hates, room 99", -2, most, 0, 1);
+        pair("432 that the first hates, room 99", -2, most, 1, 0);
+        Check.due("99 that the other hates, room 99", 11, most.split(0, 1, 1));
+        Check.due("99 that the first hates, room 99", 0, most.split(1, 0, 1));
         pair("22 and one of c more, rooms 23 and 1", 9, tight, 0, 1);
         pair("22 and two of c more, rooms 23 and 0", -2, tight, 0, 2);
     }

@@ -27,6 +27,7 @@ public final class TextEdgesTest {
         aFaultChangesNothing();
         inPlaceOfTheOneAhead();
         nothingIsLeft();
+        behindBrokenTexts();
         fullTextsAgain();
         Check.end();
     }
@@ -420,6 +421,24 @@ public final class TextEdgesTest {
             Check.due("no illness: man(" + man + ", 2)", 0, x.man(man, 2));
         }
         Check.due("no bite of b at gate 0", 0, x.toll(0, 0, 1));
+    }
+
+    /** A text that broke off within an expression leaves nothing to the next one. */
+    private static void behindBrokenTexts() {
+        String right = "dish a 1 2 3; man m 9 0 0 0; law 0 a = 2; law 1 a = 1 + 2;";
+        String[] broken = {"law 0 a = 1 + 2 * (3 - 4 / (", "law 0 a = 1 + 2 *", "law 0 a = if 1 < 2 then 3 - ((((((1 + 2 * #",
+            "law 0 a = ((((((1 + 2 * ((", "man n 9 0 0 0 hates a ill a 1 fast 0 23 hates", "law 0 a = 1; law 1 a = 5; owe m m 3;"};
+        for (String text : broken) {
+            EatenToll x = new EatenToll();
+            Check.put(x, "dish a 1 2 3; man m 9 0 0 0;" + text);
+            Check.due("read() of " + text, true, x.read() > 0);
+            Check.put(x, right);
+            Check.due("read() behind " + text, 0, x.read());
+            Check.due("toll(0, 0, 0) behind " + text, 2, x.toll(0, 0, 0));
+            Check.due("toll(0, 1, 0) behind " + text, 3, x.toll(0, 1, 0));
+            Check.due("net(0) behind " + text, 0, x.net(0));
+            Check.due("may(0, 0) behind " + text, 0, x.may(0, 0));
+        }
     }
 
     /** A text of 400 tokens finds the same room behind others of them. */

@@ -52,6 +52,8 @@ public final class TokenEdgesTest {
             Check.due("read() of " + length + " bytes", 0, x.read());
             Check.due("its last tell is told", 1, x.count(0));
             Check.faultAt(1, length, " ".repeat(length - 4) + "dish");
+            Check.faultAt(1, length, " ".repeat(length - 12) + "dish a 1 2 3");
+            Check.faultAt(1, length, "dish" + " ".repeat(length - 4));
             Check.faultAt(1, length - 1, " ".repeat(length - 1) + "#");
         }
         EatenToll x = new EatenToll();
