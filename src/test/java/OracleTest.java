@@ -14,6 +14,7 @@ public final class OracleTest {
     private int men;
     private boolean hungry;
     private boolean roomy;
+    private boolean wide;
 
     private OracleTest(long seed) {
         this.seed = seed * 1000003 + 17;
@@ -38,6 +39,11 @@ public final class OracleTest {
 
     private boolean chance(int of100) {
         return below(100) < of100;
+    }
+
+    /** Any number that may be told, its bounds more often than the others. */
+    private int toldNumber(int least, int most) {
+        return chance(15) ? least : chance(20) ? most : near(least, most);
     }
 
     // ---- texts ----
@@ -67,13 +73,14 @@ public final class OracleTest {
     }
 
     private String man(int number) {
-        int belly = hungry ? near(0, 20) : roomy ? near(10, 60) : near(0, 40);
-        StringBuilder b = new StringBuilder("man " + NAMES[4 + number] + " " + belly + " " + below(belly / 2 + 1) + " "
-            + below(10) + " " + below(1000));
+        int belly = wide ? toldNumber(0, 99) : hungry ? near(0, 20) : roomy ? near(10, 60) : near(0, 40);
+        int full = wide ? toldNumber(0, belly) : below(belly / 2 + 1);
+        int load = wide ? toldNumber(0, 999) : below(1000);
+        StringBuilder b = new StringBuilder("man " + NAMES[4 + number] + " " + belly + " " + full + " " + below(10) + " " + load);
         while (chance(35)) {
-            int from = below(24);
+            int from = wide ? toldNumber(0, 23) : below(24);
             String dish = dishes == 0 ? "" : NAMES[below(dishes)];
-            String trait = dishes == 0 || chance(33) ? " fast " + from + " " + near(from, Math.min(23, from + 6))
+            String trait = dishes == 0 || chance(33) ? " fast " + from + " " + near(from, wide ? 23 : Math.min(23, from + 6))
                 : chance(50) ? " hates " + dish : " ill " + dish + " " + near(1, 6);
             b.append(trait);
         }
@@ -107,10 +114,13 @@ public final class OracleTest {
         roomy = chance(50);
         boolean plenty = chance(60);
         boolean many = chance(30);
+        wide = chance(35);
         StringBuilder b = new StringBuilder();
         for (int i = 0; i < dishes; i++) {
-            b.append("dish ").append(NAMES[i]).append(" ").append(near(1, chance(50) ? 3 : 9)).append(" ").append(below(12))
-                .append(" ").append(plenty ? near(50, 999) : below(30)).append(";\n");
+            int bulk = wide ? toldNumber(1, 9) : near(1, chance(50) ? 3 : 9);
+            int gain = wide ? toldNumber(0, 99) : below(12);
+            int store = wide && plenty ? toldNumber(0, 999) : plenty ? near(50, 999) : below(30);
+            b.append("dish ").append(NAMES[i]).append(" ").append(bulk).append(" ").append(gain).append(" ").append(store).append(";\n");
         }
         for (int i = 0; i < men; i++) {
             b.append(man(i));
@@ -119,7 +129,9 @@ public final class OracleTest {
             b.append(law());
         }
         for (int i = hungry ? near(3, 6) : below(5); i > 0; i--) {
-            b.append("belly ").append(NAMES[11 + i]).append(" ").append(hungry ? below(16) : below(30)).append(" ").append(below(8)).append(";");
+            int room = wide ? toldNumber(0, chance(50) ? 99 : 20) : hungry ? below(16) : below(30);
+            int fee = wide ? toldNumber(0, 99) : below(8);
+            b.append("belly ").append(NAMES[11 + i]).append(" ").append(room).append(" ").append(fee).append(";");
         }
         for (int i = many ? 20 : below(9); i > 0 && men > 0; i--) {
             b.append("goes ").append(NAMES[4 + below(men)]).append(" ").append(below(24)).append(";");
